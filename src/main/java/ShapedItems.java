@@ -588,7 +588,9 @@ public final class ShapedItems {
         /** The set of the rules that a rule leads to, once or several times. */
         int ledTo(int rule, boolean barely) {
             int found = ledToOnce(1 << rule, barely);
-            for (int i = 0; i < RULE_COUNT; i++) {
+            int before = 0;
+            for (int i = 0; i < RULE_COUNT && found != before; i++) {
+                before = found;
                 found |= ledToOnce(found, barely);
             }
             return found;

@@ -1,5 +1,6 @@
 import java.util.ArrayList;
 import java.util.Arrays;
+import java.util.Collections;
 import java.util.List;
 import java.util.Random;
 
@@ -124,12 +125,70 @@ public final class AgainstPlainModelTest {
         }
     }
 
+    /** Puts an item behind the bytes that is likely to match a TYPE. */
+    private void itemFor(String type, List<Integer> bytes, int depth) {
+        String a = one(PlainModel.flat(type));
+        String inner = a.substring(1, Math.max(1, a.length() - 1));
+        if (depth > 6 || a.equals("y") || random.nextInt(20) == 0) {
+            item(bytes, depth);
+        } else if (a.matches("-?[0-9].*")) {
+            String[] ends = a.split("\\.\\.");
+            int value = Integer.parseInt(ends[random.nextInt(ends.length)]) + (random.nextInt(8) == 0 ? 1 : 0);
+            head(bytes, value < 0 ? 1 : 0, value < 0 ? -1 - value : value);
+        } else if (a.startsWith("\"")) {
+            head(bytes, 3, inner.length());
+            inner.chars().forEach(bytes::add);
+        } else if (a.startsWith("#")) {
+            head(bytes, 6, a.charAt(1) - '0');
+            itemFor(a.substring(3, a.length() - 1), bytes, depth + 1);
+        } else if (a.startsWith("[") || a.startsWith("{")) {
+            partsFor(PlainModel.parts(inner, a.startsWith("{"), 0), a.startsWith("{"), bytes, depth + 1);
+        } else if (a.matches("[A-H]")) {
+            String rule = model.rules[a.charAt(0) - 'A'];
+            itemFor(rule == null || random.nextInt(30) == 0 ? "y" : rule, bytes, depth);
+        } else {
+            bytes.add(one(a.equals("i") ? List.of(0, 1, 32) : a.equals("s") ? List.of(0x40) : a.equals("t") ? List.of(0x60)
+                    : a.equals("b") ? List.of(0xf4, 0xf5) : List.of(0xf6)));
+        }
+    }
+
+    private void partsFor(List<PlainModel.Part> parts, boolean map, List<Integer> bytes, int depth) {
+        List<List<Integer>> made = new ArrayList<>();
+        for (PlainModel.Part part : parts) {
+            int least = part.often() == '?' || part.often() == '*' ? 0 : 1;
+            int most = part.often() == '*' || part.often() == '+' ? 3 : 1;
+            int many = random.nextInt(12) == 0 ? random.nextInt(3) : least + random.nextInt(most - least + 1);
+            for (int i = 0; i < many; i++) {
+                List<Integer> one = new ArrayList<>();
+                if (map) {
+                    itemFor(part.key(), one, depth);
+                }
+                itemFor(part.type(), one, depth);
+                made.add(one);
+            }
+        }
+        if (map) {
+            Collections.shuffle(made, random);
+        }
+        head(bytes, map ? 5 : 4, made.size());
+        made.forEach(bytes::addAll);
+    }
+
+    private void anyItem(List<Integer> bytes) {
+        String rule = model.rules[random.nextInt(letters)];
+        bytes.clear();
+        if (rule == null || random.nextInt(4) == 0 || !(model.check(Arrays.asList(model.rules).indexOf(rule)) instanceof Integer)) {
+            item(bytes, 1);
+        } else {
+            itemFor(rule, bytes, 1);
+        }
+    }
+
     private int[] bytes() {
         List<Integer> bytes = new ArrayList<>();
-        item(bytes, 1);
-        for (int tries = 0; (bytes.size() > 40 || tries < 3 && bytes.size() < 3) && tries < 20; tries++) {
-            bytes.clear();
-            item(bytes, 1);
+        anyItem(bytes);
+        for (int tries = 0; (bytes.size() > 40 || tries < 4 && bytes.size() < 4) && tries < 20; tries++) {
+            anyItem(bytes);
         }
         if (random.nextInt(8) == 0) {
             bytes.set(random.nextInt(bytes.size()), random.nextInt(256));

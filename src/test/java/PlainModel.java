@@ -85,7 +85,7 @@ final class PlainModel {
         return text.startsWith("{") && text.endsWith("}") && parts(inner, true, deep + 1) != null;
     }
 
-    private static List<Part> parts(String text, boolean map, int deep) {
+    static List<Part> parts(String text, boolean map, int deep) {
         List<Part> parts = new ArrayList<>();
         if (text.isEmpty()) {
             return parts;
@@ -108,7 +108,7 @@ final class PlainModel {
     }
 
     /** The alternatives of a TYPE, those between ( ) instead of the one that ( ) is. */
-    private static List<String> flat(String type) {
+    static List<String> flat(String type) {
         List<String> flat = new ArrayList<>();
         for (String piece : split(type, '/')) {
             if (piece.startsWith("(")) {
