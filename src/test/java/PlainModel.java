@@ -3,8 +3,8 @@ import java.util.List;
 import java.util.TreeSet;
 
 /**
- * The document's terms once more, in another way: a TYPE is asked of the text itself, by all the places where a
- * phrase that begins at a place can end, and the pairs of a map are given away by trying.
+ * The document's terms once more, in another way, so that a slip in the program shows: texts are cut where a sign
+ * stands outside all brackets and matched as they are, and the pairs of a map are given away by trying.
  */
 final class PlainModel {
     /** Thrown when trying takes too long: then nothing is said. */
