@@ -103,6 +103,35 @@ final class Due {
         return this;
     }
 
+    /** Texts that are each a TYPE with so many alternatives. */
+    static void types(int alternatives, String... texts) {
+        for (String text : texts) {
+            new Due().rule(3, text, alternatives).rule(3, "", ARGUMENT);
+        }
+    }
+
+    static void noTypes(String... texts) {
+        for (String text : texts) {
+            new Due().rule(3, text, ARGUMENT);
+        }
+    }
+
+    /** Bytes that are each well formed, of so many items. */
+    static void wellFormed(int items, String... hexes) {
+        for (String hex : hexes) {
+            new Due().items(hex, items);
+        }
+    }
+
+    static void notWellFormed(String... hexes) {
+        for (String hex : hexes) {
+            Due d = new Due().items(hex, ARGUMENT);
+            due("major(0) of " + hex, ARGUMENT, () -> d.x.major(0));
+            due("number(-1) of " + hex, ARGUMENT, () -> d.x.number(-1));
+            due("depth(99) of " + hex, ARGUMENT, () -> d.x.depth(99));
+        }
+    }
+
     /** Whether items match a type that leads to no rule. */
     static void type(String text, String yes, String no) {
         Due d = new Due().rules(text);
